@@ -62,6 +62,10 @@ final class ActsTest {
             check.due("it is paid", x.between(1, 0, 1), 0);
             check.due("and makes no due", x.between(0, 1, 1), 0);
         }
+        GiftsOfCourts small = Check.realm("555555;555555", "01,00;02,01");
+        small.send(0, 1);
+        check.due("even a due of 1 is answered", small.send(1, 0), 14);
+        check.due("and paid", small.count(7), 0);
         GiftsOfCourts x = Check.realm("555555;555555", "020,00;021,01");
         x.send(0, 1);
         x.send(0, 0);

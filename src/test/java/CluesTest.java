@@ -71,6 +71,8 @@ final class CluesTest {
         check.due("nothing told", x.count(11), 0);
         Check.gifts(x, "01,00;01,00;01,00;01,01;11,02;11,02");
         check.due("0: 3 and 3", x, x.ask(), 0, 3);
+        GiftsOfCourts alike = Check.realm("555555;555555", "01,01;01,01;01,01;01,01;01,01;01,01;01,01;01,01");
+        check.due("eight alike", alike, alike.ask(), 0, 8);
         x.heard(0, 1);
         check.due("all alike: the first", x, x.ask(), 0, 2);
         x.send(5, 1);

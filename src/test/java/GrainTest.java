@@ -72,6 +72,13 @@ final class GrainTest {
         dead.months(1);
         check.due("dead", dead.count(4), 3);
         check.due("dead ones starve none", dead.starves(0, 1), -2);
+        GiftsOfCourts last = Check.realm("555555;155555", "120,30");
+        last.sheet(2, 2, 98, 0);
+        check.due("in the 99th", last, last.starves(0, 1), 0, 99);
+        last.sheet(2, 2, 97, 0);
+        check.due("in the 98th", last, last.starves(0, 1), 0, 98);
+        last.sheet(2, 2, 99, 0);
+        check.due("not in 99", last.starves(0, 1), -2);
         GiftsOfCourts bear = Check.realm("155555;155555", "220,90;420,90;320,90");
         check.due("a bear alone", bear, bear.starves(0, 1), 1, 8);
     }

@@ -16,9 +16,9 @@ final class RestsTest {
         check.due("another v", x.rests(21), -1);
         check.due("nothing told", x.count(11), 0);
         check.due("0", x, x.rests(0), 1, 0, 0);
-        // v 8: from (0, 0) both have 4, and to send 1 alone is 8 - 1 - 3.
-        check.due("8", x.rests(8) >= 1, true);
-        check.row("the least", x, 0, 0);
+        // From (0, 0) both have 4, and who sends 1 alone has 8 - 1 - 3.
+        x.rests(8);
+        check.row("the least of 8", x, 0, 0);
     }
 
     /** All tables of gains, and the pairs in which none of ten rows or columns is better. */
@@ -65,6 +65,9 @@ final class RestsTest {
         check.due("no courts", none, none.years(1, 60), 0, 0, 0);
         GiftsOfCourts bare = Check.realm("555555;555555", "");
         check.due("no gifts", bare, bare.years(7, 60), 0, 0, 20);
+        GiftsOfCourts one = Check.realm("155555;555555", "120,90");
+        byActs(one, 3, 60);
+        byActs(one, 4, 60);
         GiftsOfCourts x = Check.realm("255555;555555;555555", "120,90;030,01;410,82");
         for (int seed : new int[] {0, 1, 2, -1, 12345, Integer.MAX_VALUE, Integer.MIN_VALUE, 99}) {
             for (int n : new int[] {1, 2, 3, 10, 33, 60}) {

@@ -99,6 +99,9 @@ final class StateTest {
         check.due("no road", x.between(0, 1, 2), -1);
         check.due("none", x.count(8), 0);
         check.due("none again", x.road(0, 1, 0), 0);
+        check.due("the shortest", x.road(0, 1, 1), 0);
+        check.due("it counts", x.count(8), 1);
+        check.due("and is there", x.road(0, 1, 0), 1);
         int[][] wrong = {{0, 0, 1}, {0, 3, 1}, {-1, 0, 1}, {0, -1, 1}, {3, 0, 1}, {0, 1, -1}, {0, 1, 10}};
         for (int[] w : wrong) {
             check.due("road refused", x.road(w[0], w[1], w[2]), -1);

@@ -158,7 +158,7 @@ final class WorthTest {
     private static void swaps() {
         // Court 0 loves clocks, court 1 things, court 2 all alike.
         GiftsOfCourts x = Check.realm("511911;591111;555555", "020,00;220,01;210,02;010,00");
-        // 0 and 1: 16 and 32 more; 0 and 2: own 4 against 18, and 2 (10 -> 20) more; 1 and 3: 36 against 2, 18 against 4.
+        // 0 and 1: both gain 32; 0 and 2: 14 and 10; 1 and 3: 34 and 14; 2 and 3: court 2 gains nothing.
         check.due("pairs", x, x.swaps(), 3, 0, 1, 36 - 4 + 36 - 4);
         check.due("none", Check.realm("555555;555555", "020,00;020,01").swaps(), 0);
         GiftsOfCourts same = Check.realm("511911;591111", "020,00;220,00");
@@ -181,5 +181,9 @@ final class WorthTest {
         GiftsOfCourts w = Check.realm("455555;555555", "020,00;021,01");
         Check.rule(w, "10-(r=s)*5");
         check.due("by the rule", w, w.swaps(), 1, 0, 1, 10);
+        Check.rule(w, "r=s");
+        check.due("none gains", w, w.swaps(), 0);
+        Check.rule(w, "5-(r=s)");
+        check.due("each gains 1", w, w.swaps(), 1, 0, 1, 2);
     }
 }
