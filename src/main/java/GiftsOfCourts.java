@@ -1144,21 +1144,21 @@ public final class GiftsOfCourts {
             return !hadIt(gift, court) && !isDead(gift);
         }
 
-        /** How much more a court thinks of the sender by a gift, if the sender owes it a due. */
-        int esteemGained(int gift, int court, int due, int value) {
+        /** How much more a court thinks of the sender by a gift, if the sender owes it so much. */
+        int esteemGained(int gift, int court, int owed, int value) {
             if (hadIt(gift, court)) {
                 return -6;
             }
             if (isDead(gift)) {
                 return -4;
             }
-            if (due <= 0) {
+            if (owed <= 0) {
                 return 2;
             }
-            if (2 * value < due) {
+            if (2 * value < owed) {
                 return -5;
             }
-            return value > 2 * due ? -2 : 4;
+            return value > 2 * owed ? -2 : 4;
         }
     }
 

@@ -28,7 +28,7 @@ final class FaceTest {
         constructors(face);
         fields(face);
         methods(face);
-        classesInside(face);
+        classesInside(face, new TreeSet<>(Set.of(FACE)));
         check.end();
     }
 
@@ -78,12 +78,19 @@ final class FaceTest {
         return told.append(')').append(method.getReturnType().getName()).toString();
     }
 
-    private static void classesInside(Class<?> face) {
+    private static void classesInside(Class<?> face, Set<String> told) {
+        Set<String> names = new TreeSet<>();
+        for (String method : told) {
+            names.add(method.substring(0, method.indexOf('(')));
+        }
         Class<?>[] inside = face.getDeclaredClasses();
         check.due("at most twelve classes", inside.length + 1 <= 12, true);
         for (Class<?> one : inside) {
             boolean hidden = !Modifier.isPublic(one.getModifiers()) && !Modifier.isProtected(one.getModifiers());
             check.due(one.getName() + " is hidden and static", hidden && Modifier.isStatic(one.getModifiers()), true);
+            for (Method method : one.getDeclaredMethods()) {
+                check.due("a method inside named " + method.getName(), names.contains(method.getName()), false);
+            }
             check.due(one.getName() + " has some twenty fields at most", one.getDeclaredFields().length <= 20, true);
         }
     }
