@@ -19,6 +19,7 @@ final class CluesBoundsTest {
         yearsRange();
         yearsWithoutGifts();
         yearsIfThatHasItNot();
+        yearsOfMonths();
         yearsAsInts();
         check.end();
     }
@@ -140,6 +141,8 @@ final class CluesBoundsTest {
     private static void askEqualOnes() {
         GiftsOfCourts x = Check.alike(3, "01,01;01,01;01,02;01,02");
         check.due("1 and 2 part them alike", x, x.ask(), 1, 2);
+        GiftsOfCourts halves = Check.alike(2, "01,01;01,01;01,00;01,00");
+        check.due("0 and 1 part them alike", halves, halves.ask(), 0, 2);
         GiftsOfCourts none = Check.alike(3, "01,02");
         check.due("one gift: 1 by each", none, none.ask(), 0, 1);
         GiftsOfCourts eight = Check.alike(6, Check.lines("01,05", 8));
@@ -249,6 +252,24 @@ final class CluesBoundsTest {
             long[] due = acted(Check.alike(2, "05,00"), seed, 20);
             check.due("seed " + seed, x, x.years(seed, 20), due[0], due[1], due[2]);
         }
+    }
+
+    /** Promise 40: "0: a MONTH", of six courts and eight beasts that starve. */
+    private static void yearsOfMonths() {
+        int most = 0;
+        for (int seed = 0; seed < 40; seed++) {
+            GiftsOfCourts x = starving();
+            long[] due = acted(starving(), seed, 30);
+            check.due("seed " + seed, x, x.years(seed, 30), due[0], due[1], due[2]);
+            most = Math.max(most, (int) due[1]);
+        }
+        check.due("some starved", most > 2, true);
+    }
+
+    private static GiftsOfCourts starving() {
+        GiftsOfCourts x = Check.realm(Check.lines("155555", 6), Check.lines("19,75", 8));
+        x.sheet(2, 6, 5, 2);
+        return x;
     }
 
     /** Promise 40: "(as ints; R is seed at first), (R without sign, by 65536) % n". */

@@ -17,6 +17,7 @@ final class KeptBoundsTest {
         againWhatIsKept();
         countAnotherWhat();
         countLimits();
+        fullRealm();
         rowNoneSuch();
         rowToldLast();
         questionsChangeNothing();
@@ -42,7 +43,7 @@ final class KeptBoundsTest {
 
     /** Promise 41: "Refused: others." */
     private static void keepOthers() {
-        for (int i : new int[] {MIN, -1, 3, 4, MAX}) {
+        for (int i : new int[] {MIN, -32, -1, 3, 4, 32, 33, 34, 256, MAX}) {
             check.refused("keep(" + i + ")", Check::busy, x -> x.keep(i) ? 1 : 0, 0);
         }
     }
@@ -61,7 +62,7 @@ final class KeptBoundsTest {
 
     /** Promise 42: "Refused: nothing kept", and numbers that are none. */
     private static void againNothingKept() {
-        for (int i : new int[] {MIN, -1, 0, 2, 3, MAX}) {
+        for (int i : new int[] {MIN, MIN + 1, -31, -1, 0, 2, 3, 31, 32, 33, 34, 65, 256, 257, MAX}) {
             check.refused("again(" + i + ")", Check::busy, x -> x.again(i) ? 1 : 0, 0);
         }
         check.due("again(1)", Check.busy().again(1), true);
@@ -167,6 +168,37 @@ final class KeptBoundsTest {
         check.due("gifts", x.count(1), 8);
         check.due("courts", x.count(0), 6);
         check.due("what can be undone", x.count(10), 15);
+    }
+
+    /** Terms 1: six courts and eight GIFTS, the most of both: all that can be asked of them. */
+    private static void fullRealm() {
+        GiftsOfCourts x = Check.realm(Check.lines("555555", 4) + ";155555;555555", Check.lines("19,95", 8));
+        check.due("where", x, x.where(7), 0, 9, 9);
+        check.due("answer", x, x.answer(5, 0), 0, 12, 9);
+        check.due("answer without a gift", x.answer(0, 5), -2);
+        check.due("wins", x, x.wins(5, 4), 3, 0, 1, 2);
+        check.due("unseen", x, x.unseen(7), 0b011111, 5);
+        check.due("swaps", x, x.swaps(), 0);
+        check.due("no way", x.way(0, 5), -2);
+        // 60 of grain are eaten by six of them, 9 each, and 6 are too few for the next one.
+        check.due("feeds", x, x.feeds(5), 1, 6, 0);
+        check.due("starves", x, x.starves(5, 4), 0, 8);
+        check.due("settle", x, x.settle(), 0, 0);
+        check.due("ring", x.ring(), -2);
+        check.due("league", x, x.league(), 1, 1);
+        check.due("fits", x, x.fits(), 255, 8, 72);
+        check.due("ask", x, x.ask(), 0, 8);
+        check.due("law", x, Check.law(x, "w+1"), 8, 80, 72);
+        for (int g = 0; g < 5; g++) {
+            x.send(g, g);
+        }
+        check.due("net of the last", x, x.net(5), 45, 45, 0);
+        check.due("settle", x, x.settle(), 5, 6);
+        check.due("what each owes", x.court(4, 5), 9);
+        check.due("fits", x, x.fits(), 255, 8, 72);
+        check.due("ask", x, x.ask(), 0, 7);
+        check.due("ranks", x, x.ranks(), 5, 5, 0, 1, 2, 3, 4, 60);
+        check.due("months", x, x.months(1), 0, 0, 50 * 6 + 10 * 5 + 2 - 72);
     }
 
     /** Promise 44: "NoSuchElementException: none such". */

@@ -155,6 +155,8 @@ final class RoadsBoundsTest {
         check.due("not in 99, but in 100", x.walks(0, 4, 9, 10), -2);
         x.road(2, 4, 2);
         check.due("in 91", x.walks(0, 4, 9, 10), 91);
+        check.due("from another one", x.walks(1, 0, 9, 10), 1);
+        check.due("from the first one again", x.walks(0, 1, 9, 10), 1);
         x.road(2, 4, 0);
         check.due("no way", x.walks(0, 4, 0, 99), -2);
         check.refused("no way", Check::busy, y -> y.walks(0, 2, 0, 99), -2);

@@ -13,6 +13,7 @@ final class RuleBoundsTest {
 
     public static void main(String[] args) {
         emptyText();
+        oneBehindAnother();
         signCantStand();
         everyShortText();
         endsTooEarly();
@@ -43,6 +44,24 @@ final class RuleBoundsTest {
         check.due("as at first", x.value(0, 1), 13 * 2 / 5);
         check.due("of a new object", new GiftsOfCourts().rule(), 0);
         check.due("rules are not to be undone", x.count(10), 0);
+    }
+
+    /** Promise 6: "THE TEXT is THE RULE": nothing of those ahead of it is left. */
+    private static void oneBehindAnother() {
+        GiftsOfCourts x = Check.alike(1, "17,00");
+        for (int i = 0; i < 6; i++) {
+            Check.rule(x, FORTY);
+            check.due("a long one", x.value(0, 0), 31);
+            Check.law(x, "-" + FORTY.substring(0, 39));
+            Check.rule(x, "-" + FORTY.substring(0, 37) + "-w");
+            check.due("the longest", x.value(0, 0), 10);
+            Check.rule(x, "w");
+            check.due("a short one", x.value(0, 0), 7);
+            Check.rule(x, "w+");
+            check.due("one that can't be", x.value(0, 0), 7);
+            Check.rule(x, "");
+            check.due("none", x.value(0, 0), 7);
+        }
     }
 
     /** Promise 6: "-1 - p: the sign at p can't stand there". */
@@ -212,6 +231,10 @@ final class RuleBoundsTest {
         value("9-5>3", 1);
         value("-1<0", 1);
         value("9*(3<4)+5*(4<3)", 9);
+        value("9+(4<4)", 9);
+        value("9+(4>4)", 9);
+        value("9+(4=5)", 9);
+        value("9+(4<5)+(5>4)+(4=4)", 12);
     }
 
     /** Terms 1: "then - ahead of a thing (any many)". */

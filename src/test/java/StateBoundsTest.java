@@ -93,6 +93,10 @@ final class StateBoundsTest {
         for (int kind = 0; kind < 5; kind++) {
             check.due("court(0, 1" + kind + ")", x.court(0, 10 + kind), 1 + kind);
         }
+        check.due("it has no gift", x.court(1, 2), 0);
+        GiftsOfCourts eight = Check.alike(6, Check.lines("19,95", 8));
+        check.due("it has all eight", eight.court(5, 2), 255);
+        check.due("and the others none", eight.court(4, 2), 0);
         for (int what : new int[] {MIN, -2, -1, 6, 7, 8, 9, 15, 16, MAX}) {
             check.refusedThrowing("court(0, " + what + ")", Check::busy, y -> y.court(0, what));
         }

@@ -154,6 +154,7 @@ final class WorthBoundsTest {
                 x.envoy(1, 0, esteem - 10);
             }
             long[] row = {0, 1, 2, 3};
+            x.league();
             int due = fewest[esteem - 10];
             check.due("wins at " + esteem, x, x.wins(0, 1), due, Arrays.copyOf(row, due));
         }
@@ -166,6 +167,7 @@ final class WorthBoundsTest {
     private static void winsByFour() {
         GiftsOfCourts none = Check.alike(2, "");
         none.envoy(1, 0, 5);
+        none.league();
         check.due("0, without gifts", none, none.wins(0, 1), 0);
         GiftsOfCourts x = Check.alike(2, Check.lines("05,00", 8));
         x.envoy(1, 0, -3);
@@ -200,6 +202,10 @@ final class WorthBoundsTest {
         GiftsOfCourts many = Check.alike(2, "020,00;05,01;01,01;01,01;01,01;020,01");
         many.send(0, 1);
         check.due("4 and 2 by the cheapest", many, many.wins(1, 0), 2, 5, 2);
+        GiftsOfCourts first = Check.alike(2, "020,01;09,00;020,00;041,01");
+        first.send(2, 1);
+        first.envoy(0, 1, 1);
+        check.due("the first gift pays", first, first.wins(1, 0), 1, 0);
         // What the other one had does not pay, and is 6 less.
         GiftsOfCourts had = Check.alike(2, "020,00;020,01");
         had.send(0, 1);
@@ -242,6 +248,8 @@ final class WorthBoundsTest {
         }
         GiftsOfCourts alone = Check.alike(1, "05,00");
         check.due("no other court", alone, alone.unseen(0), 0, 0);
+        GiftsOfCourts last = Check.alike(6, "05,05");
+        check.due("all but the last", last, last.unseen(0), 0b011111, 5);
     }
 
     /** Promise 22: "not ALLIED to any court that HAD it, but the one that has it". */
