@@ -195,6 +195,7 @@ final class KeptBoundsTest {
         check.due("net of the last", x, x.net(5), 45, 45, 0);
         check.due("settle", x, x.settle(), 5, 6);
         check.due("what each owes", x.court(4, 5), 9);
+        check.due("what all owe", x.count(7), 45);
         check.due("fits", x, x.fits(), 255, 8, 72);
         check.due("ask", x, x.ask(), 0, 7);
         check.due("ranks", x, x.ranks(), 5, 5, 0, 1, 2, 3, 4, 60);

@@ -13,6 +13,7 @@ final class RoadsBoundsTest {
         walksTheSame();
         walksHasWhatItEats();
         walksTakesMore();
+        walksOfSix();
         walksNotIn99();
         walksOthers();
         aliveTenths();
@@ -137,6 +138,22 @@ final class RoadsBoundsTest {
         check.due("4 and 4, and never more", x.walks(0, 2, 2, 4), -2);
         check.due("it takes nothing", x.walks(0, 2, 2, 0), -2);
         check.due("it needs nothing", x.walks(0, 2, 0, 0), 6);
+    }
+
+    /** Promise 25, over all of six courts, to and fro, and from each one. */
+    private static void walksOfSix() {
+        GiftsOfCourts x = chain(2);
+        for (int from = 0; from < 6; from++) {
+            for (int to = 0; to < 6; to++) {
+                int months = 2 * Math.abs(from - to);
+                check.due("from " + from + " to " + to, x.walks(from, to, 3, 6), months);
+                check.due("too little, from " + from + " to " + to, x.walks(from, to, 3, 5), from == to ? 0 : -2);
+            }
+        }
+        x.road(4, 5, 9);
+        // In court 4 it has 16 behind 8 months, and 2 more by each road of 2 months; 27 are needed, so six roads more.
+        check.due("to and fro ahead of the last road", x.walks(0, 5, 3, 8), 8 + 12 + 9);
+        check.due("and back, too little at once", x.walks(5, 0, 3, 8), -2);
     }
 
     /** Promise 25: "-2: not in 99". */
