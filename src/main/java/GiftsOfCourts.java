@@ -73,11 +73,11 @@ public final class GiftsOfCourts {
         for (int i = 0; i < MOST_KEPT; i++) {
             kept[i] = new State();
         }
-        ruling = new Rule();
-        draft = new Rule();
+        ruling = new Rule(text);
+        draft = new Rule(text);
         roads = new Roads(realm);
         debts = new Debts(realm);
-        wooing = new Wooing(realm);
+        wooing = new Wooing(realm, now);
         clues = new Clues(realm);
     }
 
@@ -119,7 +119,7 @@ public final class GiftsOfCourts {
     }
 
     public int rule() {
-        int fault = draft.read(text);
+        int fault = draft.read();
         text.length = 0;
         if (fault >= 0) {
             return -1 - fault;
@@ -360,7 +360,7 @@ public final class GiftsOfCourts {
         if (!realm.areTwoCourts(court, other)) {
             return NONE;
         }
-        int fewest = wooing.fewestGifts(now, ruling, court, other);
+        int fewest = wooing.fewestGifts(ruling, court, other);
         if (fewest >= 0) {
             told.clear();
             for (int i = 0; i < fewest && i < MOST_WOOING; i++) {
@@ -512,18 +512,17 @@ public final class GiftsOfCourts {
     // ---- esteem
 
     public int ranks() {
-        if (realm.courtCount == 0) {
+        int first = mostEsteemedBut(0);
+        if (first < 0) {
             return IN_VAIN;
         }
         int placed = 0;
-        int first = NONE;
         told.clear();
         for (int place = 0; place < realm.courtCount; place++) {
             int next = mostEsteemedBut(placed);
             if (next >= 0) {
                 placed |= 1 << next;
                 told.tell(next);
-                first = first < 0 ? next : first;
             }
         }
         told.tell(realm.esteemFor(now, first));
@@ -587,7 +586,7 @@ public final class GiftsOfCourts {
     }
 
     public int law() {
-        int fault = draft.read(text);
+        int fault = draft.read();
         text.length = 0;
         if (fault >= 0) {
             return LAW_FAULT - fault;
@@ -947,6 +946,7 @@ public final class GiftsOfCourts {
         return oneGains > 0 && otherGains > 0 ? oneGains + otherGains : 0;
     }
 
+    /** The first of the courts that all others together think the most of, without those placed; or NONE. */
     private int mostEsteemedBut(int placed) {
         int best = NONE;
         int most = NONE;
@@ -1428,23 +1428,23 @@ public final class GiftsOfCourts {
         private int size;
         private final int[] stack = new int[RULE_SIGNS];
         private int top;
-        private Text source;
+        private final Text source;
         private int at;
 
-        Rule() {
+        Rule(Text source) {
+            this.source = source;
             beFirstRule();
         }
 
         /** Where the first sign stands that can't stand there, or NONE. */
-        int read(Text text) {
-            if (text.length == 0) {
+        int read() {
+            if (source.length == 0) {
                 beFirstRule();
                 return NONE;
             }
-            source = text;
             at = 0;
             size = 0;
-            boolean read = readLevel(COMPARISON, 0) && at == text.length;
+            boolean read = readLevel(COMPARISON, 0) && at == source.length;
             return read ? NONE : at;
         }
 
@@ -1826,22 +1826,21 @@ public final class GiftsOfCourts {
     private static final class Wooing {
         final int[] best = new int[MOST_WOOING];
         private final Realm realm;
+        private final State state;
         private final int[] values = new int[MOST_GIFTS];
         private final int[] chosen = new int[MOST_WOOING];
-        private State state;
         private int wooed;
-        private int held;
         private int wanted;
         private int leastWorth;
 
-        Wooing(Realm realm) {
+        Wooing(Realm realm, State state) {
             this.realm = realm;
+            this.state = state;
         }
 
-        int fewestGifts(State itsState, Rule rule, int court, int other) {
-            state = itsState;
+        int fewestGifts(Rule rule, int court, int other) {
             wooed = other;
-            held = realm.heldBy(state, court);
+            int held = realm.heldBy(state, court);
             for (int g = 0; g < realm.giftCount; g++) {
                 values[g] = realm.valueFor(rule, state, g, other);
             }
