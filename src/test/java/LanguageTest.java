@@ -12,8 +12,8 @@ final class LanguageTest {
     private static final List<String> FORBIDDEN = List.of(
             "->", "::", "\\bfinally\\b", "\\bcatch\\b", "\\btry\\b", "\\bsynchronized\\b", "\\bassert\\b", "\\bvar\\b",
             "^package\\b", "Exact\\(", "\\+ \"", "\" \\+", "\\bObject\\b", "\\bSystem\\.(?!arraycopy)", "\\bdouble\\b",
-            "static \\{", "\\bprotected\\b", "hashCode|toString|equals\\(", "instanceof", "\\bwhile \\(true\\)",
-            "^import (?!java\\.util\\.NoSuchElementException;)", "throw new (?!NoSuchElementException\\(\\);)");
+            "static \\{", "\\bnull\\b", "\\bfloat\\b", "\\bprotected\\b", "hashCode|toString|equals\\(", "instanceof",
+            "\\bwhile \\(true\\)", "^import (?!java\\.util\\.NoSuchElementException;)", "throw new (?!NoSuchElementException\\(\\);)");
 
     private static final Check check = new Check();
 
@@ -27,6 +27,7 @@ final class LanguageTest {
             check.due("line " + (i + 1) + " has signs above 127", lines.get(i).chars().anyMatch(c -> c > 127), false);
         }
         methods(lines);
+        making(lines);
         check.end();
     }
 
@@ -42,5 +43,26 @@ final class LanguageTest {
             }
         }
         check.due("methods were found", found > 100, true);
+    }
+
+    /** The room of a run is counted: objects are made by constructors and fields alone, but for what is thrown. */
+    private static void making(List<String> lines) {
+        String constructorEnd = "";
+        int found = 0;
+        for (int i = 0; i < lines.size(); i++) {
+            String line = lines.get(i);
+            if (line.matches(" +(public )?[A-Z]\\w+\\(.*\\) \\{")) {
+                constructorEnd = line.replaceAll("\\S.*", "}");
+            } else if (line.equals(constructorEnd)) {
+                constructorEnd = "";
+            }
+            if (line.matches(".*\\bnew\\b.*[(\\[].*;")) {
+                found++;
+                boolean field = line.matches(" +(private )?(static )?final .*");
+                boolean thrown = line.contains("throw new");
+                check.due("line " + (i + 1) + " makes an object in a method", !constructorEnd.isEmpty() || field || thrown, true);
+            }
+        }
+        check.due("making was found", found > 40, true);
     }
 }
